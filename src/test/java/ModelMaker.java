@@ -1,0 +1,212 @@
+import java.util.ArrayList;
+import java.util.List;
+import java.util.Random;
+
+/** Makes texts of models from a seed: most of them right, some bent. */
+final class ModelMaker {
+  private static final String OCTETS = "()[];:,'=<>!&|?+-*/.0123456789xyv_ \n$%\u0007\u00ff";
+
+  private final Random random;
+  private final List<String> ints = new ArrayList<>();
+  private final List<String> bools = new ArrayList<>();
+  private boolean careless;
+
+  ModelMaker(long seed) {
+    random = new Random(seed);
+  }
+
+  private int below(int n) {
+    return random.nextInt(n);
+  }
+
+  private boolean oneIn(int n) {
+    return random.nextInt(n) == 0;
+  }
+
+  private String pick(String... of) {
+    return of[below(of.length)];
+  }
+
+  private String gap() {
+    return oneIn(40) ? pick("  ", "\n", " // a remark; $ 1x\n", "//\n", " ") : oneIn(3) ? " " : "";
+  }
+
+  private String intOf(int depth) {
+    if (careless && oneIn(60)) {
+      return boolOf(depth - 1);
+    }
+    if (depth <= 0 || oneIn(3)) {
+      return ints.isEmpty() || oneIn(2) ? "" + below(oneIn(20) ? 1000000 : 4) : ints.get(below(ints.size()));
+    }
+    switch (below(9)) {
+      case 0: return intOf(depth - 1) + gap() + "+" + gap() + intOf(depth - 1);
+      case 1: return intOf(depth - 1) + gap() + "-" + gap() + intOf(depth - 1);
+      case 2: return intOf(depth - 1) + gap() + "*" + gap() + intOf(depth - 1);
+      case 3: return "-" + gap() + intOf(depth - 1);
+      case 4: return pick("min", "max") + gap() + "(" + intOf(depth - 1) + gap() + "," + intOf(depth - 1) + ")";
+      case 5: return "mod(" + intOf(depth - 1) + "," + (oneIn(8) ? intOf(depth - 1) : "" + (1 + below(4))) + ")";
+      case 6: return "(" + gap() + boolOf(depth - 1) + "?" + intOf(depth - 1) + ":" + intOf(depth - 1) + ")";
+      default: return "(" + intOf(depth - 1) + gap() + ")";
+    }
+  }
+
+  private String boolOf(int depth) {
+    if (careless && oneIn(60)) {
+      return intOf(depth - 1);
+    }
+    if (depth <= 0) {
+      return bools.isEmpty() || oneIn(2) ? pick("true", "false") : bools.get(below(bools.size()));
+    }
+    switch (below(9)) {
+      case 0: return boolOf(depth - 1) + gap() + "&" + gap() + boolOf(depth - 1);
+      case 1: return boolOf(depth - 1) + gap() + "|" + gap() + boolOf(depth - 1);
+      case 2: return boolOf(depth - 1) + gap() + "=>" + gap() + boolOf(depth - 1);
+      case 3: return "!" + gap() + boolOf(depth - 1);
+      case 4: return "(" + boolOf(depth - 1) + ")";
+      case 5: return "(" + boolOf(depth - 1) + (oneIn(2) ? "=" : "!=") + "(" + boolOf(depth - 1) + "))";
+      case 6: return boolOf(depth - 1) + " ? " + boolOf(depth - 1) + " : " + boolOf(depth - 1);
+      default: return intOf(depth - 1) + gap() + pick("=", "!=", "<", "<=", ">", ">=") + gap() + intOf(depth - 1);
+    }
+  }
+
+  private String shares(List<String> updates) {
+    int n = updates.size();
+    if (n == 1 && oneIn(2)) {
+      return updates.get(0);
+    }
+    int whole = oneIn(3) ? 1000 : Math.max(n, oneIn(2) ? 1 + below(999) : 1 + below(12));
+    int[] part = new int[n];
+    int left = whole;
+    for (int i = 0; i < n; i++) {
+      part[i] = i == n - 1 ? left : 1 + below(Math.max(1, (left - (n - i)) / (oneIn(3) ? 1 : 2)));
+      left -= part[i];
+    }
+    StringBuilder b = new StringBuilder();
+    for (int i = 0; i < n; i++) {
+      b.append(i > 0 ? " + " : "");
+      if (whole == 1000) {
+        b.append(part[i] / 1000).append('.').append(String.format("%03d", part[i] % 1000));
+      } else if (part[i] == whole && oneIn(2)) {
+        b.append(1);
+      } else {
+        b.append(part[i]).append(gap()).append('/').append(gap()).append(whole);
+      }
+      b.append(gap()).append(":").append(gap()).append(updates.get(i));
+    }
+    return b.toString();
+  }
+
+  String model() {
+    careless = oneIn(3);
+    StringBuilder b = new StringBuilder("mdp\n");
+    int constants = below(3);
+    for (int i = 0; i < constants; i++) {
+      b.append("const int k").append(i).append(" = ").append(intOf(oneIn(3) ? 3 : 0)).append(";\n");
+      ints.add("k" + i);
+    }
+    int modules = 1 + below(3);
+    int known = 0;
+    for (int m = 0; m < modules; m++) {
+      b.append("module m").append(m).append("\n");
+      List<String> own = new ArrayList<>();
+      int variables = below(modules == 1 ? 4 : 3);
+      List<String> newInts = new ArrayList<>();
+      List<String> newBools = new ArrayList<>();
+      for (int v = 0; v < variables; v++) {
+        String name = "v" + known++;
+        if (oneIn(3)) {
+          b.append(' ').append(name).append(" : bool").append(oneIn(2) ? " init " + pick("true", "false") : "").append(";\n");
+          newBools.add(name);
+          own.add(name + " bool");
+        } else {
+          int high = 1 + below(4);
+          b.append(' ').append(name).append(" : [").append(oneIn(9) ? "-1" : "0").append("..").append(high).append("]")
+              .append(oneIn(3) ? " init " + below(high + 1) : "").append(";\n");
+          newInts.add(name);
+          own.add(name + " " + high);
+        }
+      }
+      ints.addAll(newInts);
+      bools.addAll(newBools);
+      int commands = below(7);
+      for (int c = 0; c < commands; c++) {
+        b.append(" [").append(oneIn(2) ? "" : pick("go", "stop")).append("] ").append(boolOf(oneIn(3) ? 3 : oneIn(2) ? 2 : 1)).append(" -> ");
+        List<String> updates = new ArrayList<>();
+        int n = 1 + below(oneIn(6) ? 6 : 3);
+        for (int u = 0; u < n; u++) {
+          StringBuilder update = new StringBuilder();
+          for (String variable : own) {
+            if (oneIn(own.size())) {
+              String[] of = variable.split(" ");
+              update.append(update.length() > 0 ? " & " : "").append("(").append(of[0]).append("'=");
+              if (of[1].equals("bool")) {
+                update.append(boolOf(2));
+              } else if (oneIn(2)) {
+                update.append(below(Integer.parseInt(of[1]) + 1));
+              } else {
+                update.append(pick("mod(" + intOf(1) + ", " + of[1] + ")", "min(" + of[0] + " + 1, " + of[1] + ")", "max(0, " + of[0] + " - 1)",
+                    "max(0, min(" + of[1] + ", " + intOf(2) + "))", oneIn(9) ? intOf(2) : of[0]));
+              }
+              update.append(")");
+            }
+          }
+          updates.add(update.length() == 0 ? "true" : update.toString());
+        }
+        b.append(shares(updates)).append(";\n");
+      }
+      b.append("endmodule\n");
+    }
+    b.append("target ").append(boolOf(oneIn(2) ? 2 : 1)).append(";\n");
+    return b.toString();
+  }
+
+  /** A chain of many states with two or three ways each: long numbers, many policies. */
+  String chain(int states, int widest) {
+    StringBuilder b = new StringBuilder("mdp module a x : [0.." + (states - 1) + "];");
+    for (int s = 0; s < states - 2; s++) {
+      int ways = 1 + below(widest > 4 ? 1 : 2);
+      for (int w = 0; w < ways && b.length() < 5500; w++) {
+        b.append("\n[] x=").append(s).append(" -> ");
+        int n = 2 + below(widest - 1);
+        List<String> updates = new ArrayList<>();
+        for (int u = 0; u < n; u++) {
+          int to = u == 0 ? s + 1 : below(states);
+          updates.add("(x'=" + to + ")");
+        }
+        b.append(shares(updates)).append(";");
+      }
+    }
+    return b.append(" endmodule target x=").append(states - 1).append(";").toString();
+  }
+
+  String bend(String text) {
+    StringBuilder b = new StringBuilder(text);
+    int times = 1 + below(2);
+    for (int i = 0; i < times && b.length() > 4; i++) {
+      int at = below(b.length());
+      switch (below(6)) {
+        case 0: b.deleteCharAt(at); break;
+        case 1: b.setCharAt(at, OCTETS.charAt(below(OCTETS.length()))); break;
+        case 2: b.insert(at, pick("(", ")", "!", "-", "?", ":", "=>", "=", "<", "+", "*", "&", "|", "$", "true", "1", "0.5", "v0", " 1234567", " 0.1234", " 1.5x ", "min(", ",", "..", ".", "//", "'", "[", "]", ";")); break;
+        case 3: b.setLength(at); break;
+        case 4: {
+          int to = Math.min(b.length(), at + 1 + below(12));
+          b.insert(below(b.length()), b.substring(at, to));
+          break;
+        }
+        default: b.delete(at, Math.min(b.length(), at + 1 + below(6)));
+      }
+    }
+    return b.toString();
+  }
+
+  /** A heap of tokens that only the beginning of makes sense, to be read as one expression. */
+  String heap() {
+    StringBuilder b = new StringBuilder("mdp const int k = ");
+    int n = 1 + below(14);
+    for (int i = 0; i < n; i++) {
+      b.append(oneIn(3) ? "" : " ").append(pick("1", "2", "true", "false", "(", ")", "!", "-", "+", "*", "=", "<", "&", "|", "=>", "?", ":", "min(", "max(", "mod(", ",", "$", "3", "1", "2", ")", "(1)", "(true)"));
+    }
+    return b.append(oneIn(2) ? ";" : "").append(pick("", "", " $", " x")).toString();
+  }
+}
