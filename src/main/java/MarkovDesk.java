@@ -1,5 +1,3 @@
-import java.util.Arrays;
-
 /**
  * An exact model checker for Markov decision processes. The words THE TEXT, STATE, CHOICE, OUTCOME,
  * POLICY, VALUE, RESULT, WRONG, BROKEN and FULL are those of the document.
@@ -176,7 +174,22 @@ public final class MarkovDesk {
     tokens.fed = 0;
     model.ready = false;
     forget();
-    reader.readText(n);
+    reader.startOn(n);
+    for (int i = 0; i < TOKENS_MOST && reader.kind() == CONST; i++) {
+      reader.readConstant();
+    }
+    boolean more = true;
+    for (int i = 0; i <= MODULES_MOST && more; i++) {
+      reader.openModule();
+      for (int k = 0; k < TOKENS_MOST && reader.kind() == NAME; k++) {
+        reader.readVariable();
+      }
+      for (int k = 0; k < TOKENS_MOST && reader.kind() == OPEN_SQUARE; k++) {
+        reader.readCommand();
+      }
+      more = reader.closeModule();
+    }
+    reader.readTarget();
     model.ready = true;
     return tokens.made;
   }
@@ -613,7 +626,8 @@ public final class MarkovDesk {
             break;
           case NAME:
             top++;
-            stack[top] = cell(rows, base + operand);
+            int at = base + operand;
+            stack[top] = at >= 0 && at < rows.length ? rows[at] : 0;
             break;
           case NOT:
             stack[top] = 1 - stack[top];
@@ -642,10 +656,6 @@ public final class MarkovDesk {
       }
       broken = true;
       return 0;
-    }
-
-    private static int cell(int[] rows, int at) {
-      return at >= 0 && at < rows.length ? rows[at] : 0;
     }
 
     private int join(int code, int a, int b) {
@@ -744,32 +754,6 @@ public final class MarkovDesk {
       this.model = model;
     }
 
-    private void readText(int n) {
-      startOn(n);
-      take(MDP);
-      for (int i = 0; i < TOKENS_MOST && kind() == CONST; i++) {
-        readConstant();
-      }
-      boolean more = true;
-      for (int i = 0; i <= MODULES_MOST && more; i++) {
-        openModule();
-        for (int k = 0; k < TOKENS_MOST && kind() == NAME; k++) {
-          readVariable();
-        }
-        for (int k = 0; k < TOKENS_MOST && kind() == OPEN_SQUARE; k++) {
-          readCommand();
-        }
-        take(ENDMODULE);
-        more = kind() == MODULE;
-      }
-      take(TARGET);
-      model.target = readExpression(BOOL_TYPE, true);
-      take(SEMICOLON);
-      if (kind() != END) {
-        fail(place());
-      }
-    }
-
     private void startOn(int n) {
       wrongAt = -1;
       model.clear();
@@ -782,6 +766,7 @@ public final class MarkovDesk {
       tokens.scan(n);
       at = -1;
       advance();
+      take(MDP);
     }
 
     private void readConstant() {
@@ -803,6 +788,21 @@ public final class MarkovDesk {
       remember(takeNewName(), MODULE_ROLE, model.modules);
       model.modules++;
       ownFrom = model.variables;
+    }
+
+    /** Answers whether another one comes. */
+    private boolean closeModule() {
+      take(ENDMODULE);
+      return kind() == MODULE;
+    }
+
+    private void readTarget() {
+      take(TARGET);
+      model.target = readExpression(BOOL_TYPE, true);
+      take(SEMICOLON);
+      if (kind() != END) {
+        fail(place());
+      }
     }
 
     private void readVariable() {
@@ -1446,7 +1446,13 @@ public final class MarkovDesk {
         int update = model.firstUpdate[taken[p]] + rest % many;
         rest /= many;
         share *= model.top[update];
-        change(s, update);
+        for (int i = model.firstStep[update]; i < model.firstStep[update + 1]; i++) {
+          int v = model.stepVariable[i];
+          next[v] = machine.run(model.stepCode[i], rows, s * VARIABLES_MOST);
+          if (machine.broken || next[v] < model.low[v] || next[v] > model.high[v]) {
+            throw new ArithmeticException();
+          }
+        }
       }
       int t = stateOfNext();
       for (int o = firstOutcome[choices]; o < outcomes; o++) {
@@ -1458,17 +1464,6 @@ public final class MarkovDesk {
       reached[outcomes] = t;
       top[outcomes] = share;
       outcomes++;
-    }
-
-    private void change(int s, int update) {
-      for (int i = model.firstStep[update]; i < model.firstStep[update + 1]; i++) {
-        int v = model.stepVariable[i];
-        int made = machine.run(model.stepCode[i], rows, s * VARIABLES_MOST);
-        if (machine.broken || made < model.low[v] || made > model.high[v]) {
-          throw new ArithmeticException();
-        }
-        next[v] = made;
-      }
     }
 
     /** The number of the STATE that stands in next; it is a new one if it has none. */
@@ -1562,9 +1557,8 @@ public final class MarkovDesk {
       if (n > limb.length) {
         return false;
       }
-      if (n > size) {
-        Arrays.fill(limb, size, n, 0);
-        size = n;
+      for (; size < n; size++) {
+        limb[size] = 0;
       }
       return true;
     }
@@ -1948,7 +1942,9 @@ public final class MarkovDesk {
       }
       boolean changed = true;
       for (int i = 1; i < ROUNDS_MOST && changed; i++) {
-        evaluate(answer);
+        writeEquations(answer);
+        equations.eliminate();
+        readSolution(answer);
         answer.policies = i;
         changed = improve(answer);
       }
@@ -2030,7 +2026,7 @@ public final class MarkovDesk {
       return -1;
     }
 
-    private void evaluate(Answer answer) {
+    private void writeEquations(Answer answer) {
       int many = 0;
       for (int s = 0; s < space.states; s++) {
         row[s] = many;
@@ -2040,17 +2036,6 @@ public final class MarkovDesk {
       for (int s = 0; s < space.states; s++) {
         if (answer.open[s]) {
           writeEquation(answer, s, many);
-        }
-      }
-      equations.eliminate();
-      answer.below.copy(equations.determinant());
-      for (int s = 0; s < space.states; s++) {
-        if (answer.open[s]) {
-          answer.top[s].copy(equations.solution[row[s]]);
-        } else if (space.target[s]) {
-          answer.top[s].copy(answer.below);
-        } else {
-          answer.top[s].put(0);
         }
       }
     }
@@ -2071,6 +2056,19 @@ public final class MarkovDesk {
       }
       equations.cell(row[s], row[s]).put(own);
       equations.cell(row[s], many).put(known);
+    }
+
+    private void readSolution(Answer answer) {
+      answer.below.copy(equations.determinant());
+      for (int s = 0; s < space.states; s++) {
+        if (answer.open[s]) {
+          answer.top[s].copy(equations.solution[row[s]]);
+        } else if (space.target[s]) {
+          answer.top[s].copy(answer.below);
+        } else {
+          answer.top[s].put(0);
+        }
+      }
     }
 
     private boolean improve(Answer answer) {

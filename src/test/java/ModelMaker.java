@@ -31,22 +31,29 @@ final class ModelMaker {
     return oneIn(40) ? pick("  ", "\n", " // a remark; $ 1x\n", "//\n", " ") : oneIn(3) ? " " : "";
   }
 
+  /** Most operands that an operator could tear apart stand in brackets. */
+  private String held(String operand) {
+    return oneIn(8) || operand.length() < 4 ? operand : "(" + operand + ")";
+  }
+
   private String intOf(int depth) {
     if (careless && oneIn(60)) {
       return boolOf(depth - 1);
     }
     if (depth <= 0 || oneIn(3)) {
-      return ints.isEmpty() || oneIn(2) ? "" + below(oneIn(20) ? 1000000 : 4) : ints.get(below(ints.size()));
+      return ints.isEmpty() || oneIn(2) ? "" + below(oneIn(50) ? 1000000 : 4) : ints.get(below(ints.size()));
     }
+    String a = held(intOf(depth - 1));
+    String b = held(intOf(depth - 1));
     switch (below(9)) {
-      case 0: return intOf(depth - 1) + gap() + "+" + gap() + intOf(depth - 1);
-      case 1: return intOf(depth - 1) + gap() + "-" + gap() + intOf(depth - 1);
-      case 2: return intOf(depth - 1) + gap() + "*" + gap() + intOf(depth - 1);
-      case 3: return "-" + gap() + intOf(depth - 1);
-      case 4: return pick("min", "max") + gap() + "(" + intOf(depth - 1) + gap() + "," + intOf(depth - 1) + ")";
-      case 5: return "mod(" + intOf(depth - 1) + "," + (oneIn(8) ? intOf(depth - 1) : "" + (1 + below(4))) + ")";
-      case 6: return "(" + gap() + boolOf(depth - 1) + "?" + intOf(depth - 1) + ":" + intOf(depth - 1) + ")";
-      default: return "(" + intOf(depth - 1) + gap() + ")";
+      case 0: return a + gap() + "+" + gap() + b;
+      case 1: return a + gap() + "-" + gap() + b;
+      case 2: return a + gap() + "*" + gap() + b;
+      case 3: return "-" + gap() + a;
+      case 4: return pick("min", "max") + gap() + "(" + a + gap() + "," + b + ")";
+      case 5: return "mod(" + a + "," + (oneIn(8) ? b : "" + (1 + below(4))) + ")";
+      case 6: return "(" + gap() + held(boolOf(depth - 1)) + "?" + a + ":" + b + ")";
+      default: return "(" + a + gap() + ")";
     }
   }
 
@@ -57,15 +64,17 @@ final class ModelMaker {
     if (depth <= 0) {
       return bools.isEmpty() || oneIn(2) ? pick("true", "false") : bools.get(below(bools.size()));
     }
-    switch (below(9)) {
-      case 0: return boolOf(depth - 1) + gap() + "&" + gap() + boolOf(depth - 1);
-      case 1: return boolOf(depth - 1) + gap() + "|" + gap() + boolOf(depth - 1);
-      case 2: return boolOf(depth - 1) + gap() + "=>" + gap() + boolOf(depth - 1);
-      case 3: return "!" + gap() + boolOf(depth - 1);
-      case 4: return "(" + boolOf(depth - 1) + ")";
-      case 5: return "(" + boolOf(depth - 1) + (oneIn(2) ? "=" : "!=") + "(" + boolOf(depth - 1) + "))";
-      case 6: return boolOf(depth - 1) + " ? " + boolOf(depth - 1) + " : " + boolOf(depth - 1);
-      default: return intOf(depth - 1) + gap() + pick("=", "!=", "<", "<=", ">", ">=") + gap() + intOf(depth - 1);
+    String a = held(boolOf(depth - 1));
+    String b = held(boolOf(depth - 1));
+    switch (below(ints.isEmpty() ? 7 : 12)) {
+      case 0: return a + gap() + "&" + gap() + b;
+      case 1: return a + gap() + "|" + gap() + b;
+      case 2: return a + gap() + "=>" + gap() + b;
+      case 3: return "!" + gap() + a;
+      case 4: return "(" + a + ")";
+      case 5: return "(" + a + (oneIn(2) ? "=" : "!=") + "(" + b + "))";
+      case 6: return a + " ? " + b + " : " + held(boolOf(depth - 1));
+      default: return held(intOf(depth - 1)) + gap() + pick("=", "!=", "<", "<=", ">", ">=") + gap() + held(intOf(depth - 1));
     }
   }
 
@@ -177,6 +186,97 @@ final class ModelMaker {
       }
     }
     return b.append(" endmodule target x=").append(states - 1).append(";").toString();
+  }
+
+  /** Pairs of shares, each pair 1 / n together, with great denominators that have little in common. */
+  private List<String> pairs(int n) {
+    List<String> made = new ArrayList<>();
+    for (int i = 0; i < n; i++) {
+      int whole = n * (999 / n - below(60));
+      int part = 1 + below(whole / n - 1);
+      made.add(part + "/" + whole);
+      made.add(whole / n - part + "/" + whole);
+    }
+    return made;
+  }
+
+  /** Each state leads to many, one of them a state that nothing leads out of. */
+  String spread(int states, int n) {
+    StringBuilder b = new StringBuilder("mdp module a x:[0.." + (states - 1) + "];");
+    for (int s = 0; s < states - 2; s++) {
+      b.append("\n[]x=").append(s).append("->");
+      List<String> parts = pairs(n);
+      for (int i = 0; i < parts.size(); i++) {
+        int to = i == 1 && oneIn(2) ? states - 1 - below(2) : (s * 2 * n + i + 1) % states;
+        b.append(i > 0 ? "+" : "").append(parts.get(i)).append(":").append(i > 0 && i % 2 == 0 ? "true" : "(x'=" + to + ")");
+      }
+      b.append(";");
+    }
+    return b.append(" endmodule target x=").append(states - 1).append(";").toString();
+  }
+
+  private static boolean prime(int n) {
+    for (int d = 2; d * d <= n; d++) {
+      if (n % d == 0) {
+        return false;
+      }
+    }
+    return true;
+  }
+
+  /** Primes from there down, each with a share of it and what is left of 1 / n. */
+  private static String shares(int[] from, int n, String first, String second) {
+    do {
+      from[0]--;
+    } while (!prime(from[0]));
+    int p = from[0];
+    return (p / 2 + 1) + "/" + p * n + ":" + first + "+" + (p - p / 2 - 1) + "/" + p * n + ":" + second;
+  }
+
+  /** 24 states whose steps have about the greatest denominators that 1,500 tokens can tell: above 5,000 bits in 12 steps. */
+  static String longest() {
+    int[] from = {500};
+    int[] low = {150};
+    int[] high = {1000};
+    StringBuilder b = new StringBuilder("mdp module a x:[0..11];\n[go]x=0->");
+    b.append(shares(low, 3, "true", "(x'=1)")).append("+").append(shares(low, 3, "(x'=2)", "(x'=3)")).append("+")
+        .append(shares(low, 3, "(x'=4)", "(x'=5)")).append(";");
+    for (int x = 1; x < 11; x++) {
+      b.append("\n[go]x=").append(x).append("->").append(shares(from, 2, "true", "(x'=11)")).append("+")
+          .append(shares(from, 2, "true", x < 6 ? "(x'=" + (x + 5) + ")" : "(x'=11)")).append(";");
+    }
+    b.append(" endmodule module b y:bool;");
+    for (int x = 0; x < 11; x++) {
+      for (int y = 0; y < 2; y++) {
+        String to = "(y'=" + (y == 0) + ")";
+        b.append("\n[go]x=").append(x).append(y == 1 ? "&y->" : "&!y->");
+        b.append(x == 0 ? shares(high, 1, "true", to) : shares(from, 2, "true", to) + "+" + shares(from, 2, "true", to)).append(";");
+      }
+    }
+    return b.append(" endmodule target x=11&y;").toString();
+  }
+
+  /** Two modules that step together, each of their commands with four updates. */
+  String together(int xs, int ys) {
+    StringBuilder b = new StringBuilder("mdp ");
+    for (int m = 0; m < 2; m++) {
+      String v = m == 0 ? "x" : "y";
+      int most = m == 0 ? xs : ys;
+      b.append("module m").append(v).append(" ").append(v).append(":[0..").append(most - 1).append("];");
+      for (int i = 0; i < most; i++) {
+        int ways = oneIn(3) ? 2 : 1;
+        for (int w = 0; w < ways; w++) {
+          b.append("\n[go]").append(v).append("=").append(i).append("->");
+          List<String> parts = pairs(2);
+          for (int k = 0; k < parts.size(); k++) {
+            b.append(k > 0 ? "+" : "").append(parts.get(k)).append(":(").append(v).append("'=").append(oneIn(2) ? (i + 1) % most : below(most)).append(")");
+          }
+          b.append(";");
+        }
+      }
+      b.append(" endmodule\n");
+    }
+    return b.append("target x=").append(xs - 1).append("&y=").append(ys - 1).append(";").toString();
   }
 
   String bend(String text) {

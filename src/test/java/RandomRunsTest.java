@@ -49,6 +49,11 @@ public final class RandomRunsTest {
     for (long seed = first; seed < first + 40L * scale && wrong < 20; seed++) {
       run("chain " + seed, new ModelMaker(seed).chain(4 + (int) (seed % 21), 2 + (int) (seed % 5)));
     }
+    for (long seed = first; seed < first + 6L * scale && wrong < 20; seed++) {
+      run("spread " + seed, new ModelMaker(seed).spread(18 + (int) (seed % 6), 2 + (int) (seed % 2)));
+      run("together " + seed, new ModelMaker(seed).together(2 + (int) (seed % 3), 6));
+    }
+    run("longest", ModelMaker.longest());
     System.out.println("read " + read + ", explored " + explored + ", wrong " + refused + ", broken " + broken + ", full " + full);
     System.exit(wrong > 0 ? 1 : 0);
   }
