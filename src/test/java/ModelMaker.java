@@ -87,7 +87,8 @@ final class ModelMaker {
     int[] part = new int[n];
     int left = whole;
     for (int i = 0; i < n; i++) {
-      part[i] = i == n - 1 ? left : 1 + below(Math.max(1, (left - (n - i)) / (oneIn(3) ? 1 : 2)));
+      int most = left - (n - 1 - i);
+      part[i] = i == n - 1 ? left : 1 + below(oneIn(3) ? most : (most + 1) / 2);
       left -= part[i];
     }
     StringBuilder b = new StringBuilder();

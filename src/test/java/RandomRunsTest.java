@@ -46,7 +46,7 @@ public final class RandomRunsTest {
       run("bent " + seed, maker.bend(maker.model()));
       run("heap " + seed, new ModelMaker(seed).heap());
     }
-    for (long seed = first; seed < first + 40L * scale && wrong < 20; seed++) {
+    for (long seed = first; seed < first + 200L * scale && wrong < 20; seed++) {
       run("chain " + seed, new ModelMaker(seed).chain(4 + (int) (seed % 21), 2 + (int) (seed % 5)));
     }
     for (long seed = first; seed < first + 6L * scale && wrong < 20; seed++) {
