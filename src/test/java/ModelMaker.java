@@ -236,8 +236,13 @@ final class ModelMaker {
 
   /** 24 states whose steps have about the greatest denominators that 1,500 tokens can tell: above 5,000 bits in 12 steps. */
   static String longest() {
-    int[] from = {500};
-    int[] low = {150};
+    return longest(500, 150);
+  }
+
+  /** The same with other denominators, those of its first state apart, to come to a certain length. */
+  static String longest(int most, int first) {
+    int[] from = {most};
+    int[] low = {first};
     int[] high = {1000};
     StringBuilder b = new StringBuilder("mdp module a x:[0..11];\n[go]x=0->");
     b.append(shares(low, 3, "true", "(x'=1)")).append("+").append(shares(low, 3, "(x'=2)", "(x'=3)")).append("+")

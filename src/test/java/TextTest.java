@@ -101,6 +101,10 @@ public final class TextTest {
     Trial.wrongAt("mdp module a @\u007f");
     Trial.wrongAt("mdp $ 1234567 @\u0009");
     Trial.wrongAt("@\u00ffmdp");
+    Trial.right("mdp // ~ \n module a endmodule target true;", 8);
+    Trial.wrongAt("mdp // @\u007f \n module a endmodule target true;");
+    Trial.wrongAt("mdp // @\u001f \n module a endmodule target true;");
+    Trial.wrongAt("mdp @$ ~");
     Trial.wrongAt("mdp module a @\rendmodule target true;");
   }
 

@@ -244,6 +244,18 @@ public final class ValuesTest {
     Trial.dueThrow("not explored comes first", "IllegalStateException", () -> claimResult(desk, 0));
   }
 
+  /** 5,000 bits can be claimed; the next length that such a model comes to can not. */
+  private static void longestClaim() {
+    int[][] due = {{152, 5000}, {224, 5002}};
+    for (int[] d : due) {
+      Trial trial = Trial.explored(ModelMaker.longest(390, d[0]), 24);
+      trial.desk.solve(false);
+      trial.desk.within(false, 0, 12);
+      Trial.due("bits", trial.desk.bits(true), d[1]);
+      Trial.dueThrow("claimResult", d[1] > 5000 ? "UnsupportedOperationException" : "nothing", () -> claimResult(trial.desk, 0));
+    }
+  }
+
   public static void main(String[] args) {
     solving();
     improving();
@@ -253,6 +265,7 @@ public final class ValuesTest {
     claiming();
     parts();
     longest();
+    longestClaim();
     Trial.finish();
   }
 }
