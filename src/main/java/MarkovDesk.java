@@ -174,6 +174,7 @@ public final class MarkovDesk {
     tokens.fed = 0;
     model.ready = false;
     forget();
+    // The grammar's outermost rule stands here, so that calls stay eight deep at its innermost one.
     reader.startOn(n);
     for (int i = 0; i < TOKENS_MOST && reader.kind() == CONST; i++) {
       reader.readConstant();
@@ -1038,12 +1039,12 @@ public final class MarkovDesk {
           break;
         case NAME:
           int name = find(at);
-          int role = name < 0 ? MODULE_ROLE : nameRole[name];
-          if (role == MODULE_ROLE || role == VARIABLE_ROLE && !variablesKnown) {
+          if (name < 0 || nameRole[name] == MODULE_ROLE
+              || nameRole[name] == VARIABLE_ROLE && !variablesKnown) {
             fail(place());
           }
           int holds = nameHolds[name];
-          boolean constant = role == CONSTANT_ROLE;
+          boolean constant = nameRole[name] == CONSTANT_ROLE;
           operand(constant ? INT : NAME, holds, constant ? INT_TYPE : model.type[holds]);
           break;
         case NOT:
