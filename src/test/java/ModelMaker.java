@@ -241,9 +241,14 @@ final class ModelMaker {
 
   /** The same with other denominators, those of its first state apart, to come to a certain length. */
   static String longest(int most, int first) {
+    return longest(most, first, 1000);
+  }
+
+  /** The same with other denominators in the second module's first states, for the last bit. */
+  static String longest(int most, int first, int second) {
     int[] from = {most};
     int[] low = {first};
-    int[] high = {1000};
+    int[] high = {second};
     StringBuilder b = new StringBuilder("mdp module a x:[0..11];\n[go]x=0->");
     b.append(shares(low, 3, "true", "(x'=1)")).append("+").append(shares(low, 3, "(x'=2)", "(x'=3)")).append("+")
         .append(shares(low, 3, "(x'=4)", "(x'=5)")).append(";");

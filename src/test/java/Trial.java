@@ -7,13 +7,19 @@ final class Trial {
   }
 
   static int wrong;
+  private static String sentence = "";
 
   final MarkovDesk desk = new MarkovDesk();
+
+  /** The sentence of the document that is tested from here on. */
+  static void says(String words) {
+    sentence = words;
+  }
 
   static void due(String what, Object got, Object want) {
     if (!want.equals(got)) {
       wrong++;
-      System.out.println(what + " answered " + got + ", due is " + want);
+      System.out.println(what + " answered " + got + ", due is " + want + (sentence.isEmpty() ? "" : " (" + sentence + ")"));
     }
   }
 
@@ -71,13 +77,16 @@ final class Trial {
 
   /** A text in which @ stands where it is WRONG. */
   static void wrongAt(String marked) {
-    int at = marked.indexOf('@');
-    String text = marked.replace("@", "");
+    wrongAt(marked.replace("@", ""), marked.indexOf('@'));
+  }
+
+  /** A text that is WRONG at that octet. */
+  static void wrongAt(String text, int at) {
     Trial trial = new Trial();
-    due("end of " + marked, trial.text(text), -1);
-    due("wrong of " + marked, trial.desk.wrong(), at);
-    due("models after " + marked, trial.desk.count(1), 0);
-    dueThrow("explore after " + marked, "IllegalStateException", trial.desk::explore);
+    due("end of " + text, trial.text(text), -1);
+    due("wrong of " + text, trial.desk.wrong(), at);
+    due("models after " + text, trial.desk.count(1), 0);
+    dueThrow("explore after " + text, "IllegalStateException", trial.desk::explore);
   }
 
   /** A text that is not WRONG. */
