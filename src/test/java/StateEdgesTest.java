@@ -311,6 +311,26 @@ public final class StateEdgesTest {
       Trial.due("its probability", all.number(false) * 100, top * all.number(true));
     }
     Trial.dueThrow("outcome 16", INDEX, () -> all.desk.outcome(0, 0, 16));
+    Trial.says("Term 2: 200 CHOICES with 16 OUTCOMES each");
+    String update = "0.1:(#'=0)+0.2:(#'=1)+0.3:(#'=2)+0.4:(#'=3);";
+    String onX = " true -> " + update.replace("#", "x");
+    String onY = update.replace("#", "y");
+    // 3 * 4 in each of 16 STATES, 2 * 4 more in the first one
+    String text = "mdp module a x:[0..3]; " + ("[g]" + onX).repeat(3) + ("[h]" + onX).repeat(2) + "endmodule module b y:[0..3]; " + ("[g] true -> " + onY).repeat(4)
+        + ("[h] x=0&y=0 -> " + onY).repeat(4) + "endmodule target x=3&y=3;";
+    Trial most = Trial.explored(text, 16);
+    Trial.due("choices", most.desk.count(5), 200);
+    Trial.due("outcomes", most.desk.count(6), 3200);
+    for (int s = 0; s < 16; s++) {
+      int last = s == 0 ? 19 : 11;
+      Trial.due("choices of " + s, most.desk.state(s, 0, 0), last + 1);
+      Trial.due("outcomes of " + s, most.desk.state(s, 5, last), 16);
+      Trial.due("the last one of " + s, most.desk.outcome(s, last, 15), 15);
+      most.dueResult("its probability", 4, 25);
+      Trial.due("the first one of " + s, most.desk.outcome(s, 0, 0), 0);
+      most.dueResult("its probability", 1, 100);
+    }
+    ends(text.replace("endmodule target", "[] x=3&y=3 -> true; endmodule target"), FULL);
   }
 
   private static void broken() {
@@ -494,6 +514,12 @@ public final class StateEdgesTest {
     Trial trial = new Trial();
     for (int what : new int[] {Integer.MIN_VALUE, -2, -1, 8, 9, Integer.MAX_VALUE}) {
       Trial.dueThrow("count(" + what + ")", ARGUMENT, () -> trial.desk.count(what));
+    }
+    Trial.says("Promise 16: 7: STATES in the TARGET");
+    String[] targets = {"false", "x=0", "x=1", "x=2", "x!=1", "x<2", "true"};
+    int[] dues = {0, 1, 1, 1, 2, 2, 3};
+    for (int i = 0; i < dues.length; i++) {
+      Trial.due(targets[i], Trial.explored(one("x:[0..2];", "[] x<2 -> (x'=x+1);", targets[i]), 3).desk.count(7), dues[i]);
     }
     Trial.says("Promise 16: .. of THE MODEL (0 if there is none); .. (0 if it is not explored)");
     trial.text("mdp module a x:[0..9]; b:bool; [go] x=0 -> 1/2:(x'=1)+1/2:(x'=2); [] x=1 -> (x'=2); [go] x=1 -> true; endmodule module c [no] true -> true; endmodule target x>0;");

@@ -46,6 +46,16 @@ public final class TextEdgesTest {
     Trial behind = new Trial();
     behind.feed(LEAST + "\u0001");
     Trial.due("a foreign octet behind THE TEXT", behind.desk.end(LEAST.length()), LEAST_TOKENS);
+    Trial.says("THE TEXT is the first n octets: a TOKEN ends with it, whatever was fed behind");
+    String[][] cuts = {{"mdp", "x"}, {"mdp mod", "ule"}, {"mdp const int k=123456", "7"}, {"mdp const int k=1", "a"}, {"mdp module a []true->0.123", "4"}, {LEAST + "/", "/"}, {LEAST, "$"}, {LEAST + "//", "\n$"}};
+    int[] due = {3, 4, 22, 17, 26, LEAST.length(), -1, -1};
+    for (int i = 0; i < cuts.length; i++) {
+      Trial cut = new Trial();
+      cut.feed(cuts[i][0] + cuts[i][1]);
+      int n = cuts[i][0].length();
+      Trial.dueThrow("end of " + cuts[i][0], due[i] < 0 ? "read" : "IllegalArgumentException", () -> cut.desk.end(n) > 0 ? "read" : "not read");
+      Trial.due("wrong of " + cuts[i][0], cut.desk.wrong(), due[i]);
+    }
   }
 
   private static void length() {
@@ -595,6 +605,81 @@ public final class TextEdgesTest {
     }
   }
 
+  /** Tells whether that is true in the one STATE of a model, where x is 2. */
+  private static void told(String e, boolean due) {
+    Trial trial = new Trial();
+    Trial.due("end of " + e, trial.text("mdp module a x:[0..9] init 2; [] x=3 -> true; endmodule target " + e + ";") > 0, true);
+    trial.desk.explore();
+    Trial.due(e, trial.desk.state(0, 1, 0), due ? 1 : 0);
+  }
+
+  private static void reckoned(String e, boolean due) {
+    String truth = due ? "true" : "false";
+    told(e, due);
+    told("!(" + e + ")", !due);
+    told("!!(" + e + ")", due);
+    told("(" + e + ")=" + truth, true);
+    told("(" + e + ")!=" + truth, false);
+    told("(" + e + ")=(1<2)", due);
+    told("(" + e + "?x:x+1)=" + (due ? 2 : 3), true);
+  }
+
+  private static void operators() {
+    Trial.says("< <= > >= = != + - * min max of ints");
+    String[] ops = {"<", "<=", ">", ">=", "=", "!="};
+    boolean[][] dues = {{true, false, false}, {true, true, false}, {false, false, true}, {false, true, true}, {false, true, false}, {true, false, true}};
+    for (int i = 0; i < ops.length; i++) {
+      for (int a = 1; a <= 3; a++) {
+        reckoned(a + ops[i] + "x", dues[i][a - 1]);
+        reckoned((a - 4) + ops[i] + "x-4", dues[i][a - 1]);
+        reckoned((a == 1 ? BOTTOM : a == 2 ? "x" : TOP) + ops[i] + "x", dues[i][a - 1]);
+      }
+    }
+    told(BOTTOM + "<" + TOP, true);
+    told(TOP + "<=" + BOTTOM, false);
+    told(TOP + ">" + BOTTOM, true);
+    told("min(x,3)=2&min(3,x)=2&max(x,1)=2&max(1,x)=2&min(-x,x)=-2&max(-x,x)=2&min(x,x)=2", true);
+    told("x+3=5&x-3=-1&3-x=1&x*3=6&x*-3=-6&-x*-3=6&x*0=0&--x=2&-x=-2&x--x=4", true);
+    told("10-3-2=5&10-(3-2)=9&2+3*4=14&(2+3)*4=20&2*3-4*5=-14&-2*3+1=-5", true);
+    Trial.says("= != of two alike, ! & | => of bools, ? of a bool and two alike");
+    String[] bools = {"false", "true"};
+    for (int a = 0; a < 2; a++) {
+      reckoned(bools[a], a == 1);
+      reckoned("!" + bools[a], a == 0);
+      for (int b = 0; b < 2; b++) {
+        reckoned(bools[a] + "&" + bools[b], a == 1 && b == 1);
+        reckoned(bools[a] + "|" + bools[b], a == 1 || b == 1);
+        reckoned("(" + bools[a] + "=>" + bools[b] + ")", a == 0 || b == 1);
+        reckoned(bools[a] + "=" + bools[b], a == b);
+        reckoned(bools[a] + "!=" + bools[b], a != b);
+        for (int c = 0; c < 2; c++) {
+          reckoned("(" + bools[a] + "?" + bools[b] + ":" + bools[c] + ")", (a == 1 ? b : c) == 1);
+          told(bools[a] + "&" + bools[b] + "|" + bools[c], a == 1 && b == 1 || c == 1);
+          told(bools[a] + "|" + bools[b] + "&" + bools[c], a == 1 || b == 1 && c == 1);
+          told(bools[a] + "=>" + bools[b] + "=>" + bools[c], a == 0 || b == 0 || c == 1);
+          told(bools[a] + "=>" + bools[b] + "|" + bools[c], a == 0 || b == 1 || c == 1);
+          told(bools[a] + "&" + bools[b] + "=>" + bools[c], !(a == 1 && b == 1) || c == 1);
+          told("!" + bools[a] + "&" + bools[b] + "|" + bools[c], a == 0 && b == 1 || c == 1);
+          told("!" + bools[a] + "=" + bools[b] + "|" + bools[c], a != b || c == 1);
+          told(bools[a] + "=>" + bools[b] + "?" + bools[c] + ":!" + bools[c], (a == 0 || b == 1) == (c == 1));
+        }
+      }
+    }
+    Trial.says("{..} in E has no bound of its own");
+    told("true" + times("&true", 700), true);
+    told("true" + times("&true", 700) + "&false", false);
+    told("false" + times("|false", 700), false);
+    told("false" + times("|false", 700) + "|true", true);
+    told("701=1" + times("+1", 700), true);
+    told("-699=1" + times("-1", 700), true);
+    told("1=1" + times("*1", 700), true);
+    told("x=2" + times("&1+1=x", 200), true);
+    told("false" + times("|(true?false:true)", 130), false);
+    told("true" + times("&(false=>true)", 200), true);
+    told("false" + times("|true&false|x<2", 180), false);
+    told("0" + times("+min(1,2)", 180) + "=180", true);
+  }
+
   private static void bounds() {
     Trial.says("BROKEN in .. bounds, low above high, more than 1,000 values: WRONG (at the \"]\")");
     for (String fine : new String[] {"0..0", "0..999", "1..1000", "-999..0", "-1000..-1", "-500..499", TOP + ".." + TOP, TOP + "-999.." + TOP, BOTTOM + ".." + BOTTOM, BOTTOM + ".." + BOTTOM + "+999"}) {
@@ -646,6 +731,7 @@ public final class TextEdgesTest {
     types();
     names();
     values();
+    operators();
     bounds();
     Trial.finish();
   }

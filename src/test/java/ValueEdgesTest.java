@@ -293,6 +293,17 @@ public final class ValueEdgesTest {
     Trial none = Trial.explored(one("x:[0..2];", "[] x=0 -> 1/2:(x'=1)+1/2:(x'=2);", "false"), 3);
     Trial.due("all are 0 at first", none.desk.check(false), true);
     Trial.due("all are 0 at first", none.desk.check(true), true);
+    for (int s = 0; s < 3; s++) {
+      none.desk.claim(s, 1, 1);
+      Trial.due("claimed", none.desk.check(true), false);
+      none.desk.explore();
+      Trial.due("0 behind explore()", none.desk.check(true), true);
+    }
+    Trial last = Trial.explored(one("x:[0..23];", "[] x<23 -> (x'=x+1);", "false"), 24);
+    last.desk.claim(23, 1, 1);
+    Trial.due("claimed", last.desk.check(true), false);
+    last.desk.explore();
+    Trial.due("0 behind explore()", last.desk.check(true), true);
   }
 
   private static void claimingResult() {
