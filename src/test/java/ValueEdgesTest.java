@@ -93,6 +93,40 @@ public final class ValueEdgesTest {
       value(target, least, 1, 1, 1);
       value(target, least, 0, 1, 1);
     }
+    // the TARGET could be left for a STATE with 0, or come back by its second CHOICE alone
+    Trial left = Trial.explored(one("x:[0..3];", "[] x=0 -> (x'=1); [] x=1 -> true; [] x=1 -> (x'=2); [] x=1 -> (x'=0); [] x=2 -> (x'=3); [] x=2 -> true;", "x=1|x=3"), 4);
+    for (boolean least : BOTH) {
+      left.desk.solve(least);
+      policy(left, least ? 3 : 2, 0, 0, least ? 1 : 0, 0);
+      value(left, least, 1, 1, 1);
+      value(left, least, 2, least ? 0 : 1, 1);
+    }
+    Trial.says("Term 3: VALUES of one: the probability of coming to the TARGET (1 in it)");
+    Trial many = Trial.explored(one("x:[0..5];", "[] x=0 -> 0.1:(x'=1)+0.2:(x'=2)+0.3:(x'=3)+0.4:(x'=4); [] x=3 -> 1/3:(x'=1)+1/3:(x'=2)+1/3:(x'=5);", "x=1|x=2|x=5"), 6);
+    for (boolean least : BOTH) {
+      Trial.due("policies", many.desk.solve(least), 1);
+      value(many, least, 0, 3, 5);
+      value(many, least, 3, 1, 1);
+      value(many, least, 4, 0, 1);
+      Trial.due("within 1", many.desk.within(least, 0, 1), false);
+      many.dueResult("within 1", 3, 10);
+      Trial.due("within 2", many.desk.within(least, 0, 2), false);
+      many.dueResult("within 2", 3, 5);
+    }
+    // STATE 0 is the TARGET
+    Trial first = Trial.explored(one("x:[0..2];", "[] x=0 -> 1/2:(x'=1)+1/2:(x'=2); [] x=1 -> 1/4:(x'=0)+3/4:true;", "x=0"), 3);
+    for (boolean least : BOTH) {
+      first.desk.solve(least);
+      value(first, least, 0, 1, 1);
+      value(first, least, 1, 1, 1);
+      value(first, least, 2, 0, 1);
+      Trial.due("within 0", first.desk.within(least, 0, 0), false);
+      first.dueResult("within 0", 1, 1);
+      Trial.due("within 12", first.desk.within(least, 0, 12), false);
+      first.dueResult("within 12", 1, 1);
+      Trial.due("within 2", first.desk.within(least, 1, 2), false);
+      first.dueResult("within 2", 7, 16);
+    }
   }
 
   private static void better() {
