@@ -16,12 +16,14 @@ public final class ReadAgainTest {
     "mdp module go [k] true -> true; [x] true -> true; [k] true -> true; endmodule module x [x] true -> true; endmodule module k endmodule target false;",
     "mdp module a x:[0..3]; [] x=0 -> true; [] x=0 -> (x'=1); [] x=0 -> 1/3:(x'=2)+2/3:(x'=3); [] x=1 -> 1/4:(x'=2)+3/4:(x'=3); endmodule target x=2;",
     "mdp module a x:[0..3]; [] x=0 -> 1/2:(x'=1)+1/2:(x'=2); [] x=1 -> 0.9:(x'=3)+0.1:true; endmodule target x!=0;",
+    "mdp module a endmodule target " + "(".repeat(40) + "true" + ")".repeat(40) + ";",
     // FULL, BROKEN, and WRONG ones
     "mdp module a x:[0..99]; [] true -> (x'=x+1); endmodule target false;",
     "mdp module a x:[0..9]; [go] true -> (x'=x+1); [] x>3 -> true; endmodule target x=9;",
     "mdp const int k=1; module a x:[0..k]; [] x=((1+(2*(x - true",
     "mdp module a x:[0..1]; [go] x=0 -> 1/2:(x'=1)+1/3:true;",
     "mdp module a x:[0..1]; [go] min(x,max(1,-(2))) = (true ? 1 :",
+    "mdp module a endmodule target " + "(".repeat(41) + "true" + ")".repeat(41) + ";",
     "$"
   };
 
@@ -144,6 +146,15 @@ public final class ReadAgainTest {
       "mdp module a x:[0..9];" + six.repeat(40) + "endmodule target x=0;",
       "mdp module a x:bool;" + "[]x->(x'=x);".repeat(40) + "endmodule target x" + "&x".repeat(500) + ";"
     };
+    // 8 assignments in each of 24 UPDATES
+    String eight = "(a'=a)&(b'=b)&(c'=c)&(d'=d)&(e'=e)&(f'=f)&(g'=g)&(h'=h)";
+    Trial steps = new Trial();
+    for (int i = 0; i < 2; i++) {
+      String text = "mdp module m a:bool;b:bool;c:bool;d:bool;e:bool;f:bool;g:bool;h:bool;" + ("[]a->" + eight + ";").repeat(24) + "[]true->(h'=true);endmodule target h;";
+      Trial.due("tokens", steps.text(text), 3 + 32 + 24 * 60 + 11 + 5);
+      Trial.due("explore", steps.desk.explore(), 2);
+      Trial.due("the last assignment", steps.desk.state(1, 4, 7), 1);
+    }
     int[] due = {1500, 1496, 3 + 8 + 40 * 30 + 7, 3 + 4 + 40 * 11 + 2 + 1001 + 2};
     for (int i = 0; i < much.length; i++) {
       Trial trial = new Trial();
