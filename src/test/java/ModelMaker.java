@@ -189,6 +189,32 @@ final class ModelMaker {
     return b.append(" endmodule target x=").append(states - 1).append(";").toString();
   }
 
+  /** Any ways between states, with few different shares: circles, ways that stay away, and choices that are worth the same. */
+  String maze(int states) {
+    StringBuilder b = new StringBuilder("mdp module a x:[0.." + (states - 1) + "];");
+    int commands = 0;
+    for (int s = 0; s < states; s++) {
+      int ways = Math.min(below(4), 40 - commands);
+      for (int w = 0; w < ways; w++) {
+        String[] to = new String[3];
+        for (int u = 0; u < 3; u++) {
+          to[u] = oneIn(6) ? "true" : "(x'=" + (oneIn(3) ? (s + 1) % states : below(states)) + ")";
+        }
+        b.append("\n[]x=").append(s).append("->");
+        switch (below(4)) {
+          case 0: b.append(to[0]); break;
+          case 1: b.append("1/2:").append(to[0]).append("+1/2:").append(to[1]); break;
+          case 2: b.append("1/3:").append(to[0]).append("+2/3:").append(to[1]); break;
+          default: b.append("0.5:").append(to[0]).append("+1/4:").append(to[1]).append("+0.25:").append(to[2]);
+        }
+        b.append(";");
+        commands++;
+      }
+    }
+    b.append(" endmodule target x=").append(below(states));
+    return b.append(oneIn(3) ? "|x=" + below(states) : "").append(";").toString();
+  }
+
   /** Pairs of shares, each pair 1 / n together, with great denominators that have little in common. */
   private List<String> pairs(int n) {
     List<String> made = new ArrayList<>();

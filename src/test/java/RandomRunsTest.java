@@ -49,6 +49,9 @@ public final class RandomRunsTest {
     for (long seed = first; seed < first + 200L * scale && wrong < 20; seed++) {
       run("chain " + seed, new ModelMaker(seed).chain(4 + (int) (seed % 21), 2 + (int) (seed % 5)));
     }
+    for (long seed = first; seed < first + 600L * scale && wrong < 20; seed++) {
+      run("maze " + seed, new ModelMaker(seed).maze(2 + (int) (seed % 23)));
+    }
     for (long seed = first; seed < first + 6L * scale && wrong < 20; seed++) {
       run("spread " + seed, new ModelMaker(seed).spread(18 + (int) (seed % 6), 2 + (int) (seed % 2)));
       run("together " + seed, new ModelMaker(seed).together(2 + (int) (seed % 3), 6));
